@@ -177,6 +177,12 @@ public final class PromiseTest {
         faultDue("rhythm 1010", 7);
         faultDue("rhythm fdf d", 7);
         faultDue("rhythm fdfd1", 11);
+        faultDue("rhythm fdfda", 7);
+        faultDue("rhythm fdfdz", 7);
+        faultDue("rhythm fdfd`", 11);
+        faultDue("rhythm fdfd{", 11);
+        faultDue("light 9/", 7);
+        faultDue("light 9:", 7);
         faultDue("rhythm fdfd fdfd", 12);
         faultDue("beats 3;rhythm fdfd", 15);
         faultDue("rhythm fdfd;beats 3;rhythm fdf", NONE);
@@ -256,6 +262,11 @@ public final class PromiseTest {
         due("count(3) is as it was", x.count(3), 8);
         faultDue(x, "light 4;light 5;bad", 16);
         due("count(4) is as it was", x.count(4), 1);
+        HarbourLights y = new HarbourLights();
+        for (int n = 1; n <= 9; n++) {
+            faultDue(y, "light 1;rhythm fddd", NONE);
+        }
+        faultDue(y, "lit 0 0", 4);
     }
 
     private static void office() {
@@ -415,6 +426,10 @@ public final class PromiseTest {
         due("like(0, 2, 1) two flashes away", y.like(0, 2, 1), 0);
         due("like(2, 3, 1)", y.like(2, 3, 1), 1);
         due("like(1, 3, 1)", y.like(1, 3, 1), 0);
+        HarbourLights z = told("beats 4;window 3;rhythm fffd;rhythm ffff;rhythm dfff");
+        due("like(0, 1, 0) by its row at 0 alone", z.like(0, 1, 0), 1);
+        due("like(1, 0, 0)", z.like(1, 0, 0), 1);
+        due("like(1, 2, 0)", z.like(1, 2, 0), 1);
     }
 
     private static void lit() {
@@ -498,6 +513,27 @@ public final class PromiseTest {
         x.move(0, 100);
         x.dark(0);
         due("what was refused cannot be undone", x.undo(), NOT);
+        undoOfTheLastEight();
+    }
+
+    private static void undoOfTheLastEight() {
+        HarbourLights x = told("rhythm fddd;rhythm ffdd;light 0;light 1;light 2;light 3;light 4;light 5");
+        for (int light = 0; light < 6; light++) {
+            x.lit(light, light % 2);
+        }
+        x.move(0, 50);
+        x.dark(0);
+        x.lit(0, 1);
+        x.move(1, 51);
+        for (int n = 7; n >= 0; n--) {
+            due("undo()", x.undo(), n);
+        }
+        due("undo() of a ninth", x.undo(), NOT);
+        due("count(5)", x.count(5), 3);
+        due("light(0, 0)", x.light(0, 0), 0);
+        due("light(1, 0)", x.light(1, 0), 1);
+        due("light(0, 1)", x.light(0, 1), 0);
+        due("light(1, 1)", x.light(1, 1), 1);
     }
 
     private static void keepAndBack() {
@@ -655,6 +691,12 @@ public final class PromiseTest {
         due("machine(5, 0) of one", one.machine(5, 0), 5);
         HarbourLights eight = told("beats 8;rhythm fddddddd;rhythm dddddddd;light 5;lit 0 0;light 6;lit 1 1");
         due("machine(5, 1) behind eight beats", eight.machine(5, 1), 8);
+        HarbourLights first = told("beats 3;rhythm dff;light 5;lit 0 0");
+        due("machine(5, 0) of a dark first beat", first.machine(5, 0), 5);
+        spell(first, "beats 5;rhythm fdddd;rhythm ffddd;light 1;light 2;lit 0 0;lit 1 1");
+        due("office()", first.office(), 7);
+        due("machine(1, 0) behind another b", first.machine(1, 0), 19);
+        due("machine(1, 1) behind another b", first.machine(1, 1), 5);
     }
 
     private static void watch() {
@@ -706,6 +748,16 @@ public final class PromiseTest {
         due("see(1): a flash seen is no miss", x.see(1), 5);
         due("watch(0, 0)", x.watch(0, 0), 6);
         due("see(0) without missing", x.see(0), 1);
+        due("watch(0, 1) anew", x.watch(0, 1), 6);
+        due("see(0): no miss is left from the watch before", x.see(0), 6);
+        due("watch(0, 1) anew", x.watch(0, 1), 6);
+        due("left(1, 0): nor a turn", x.left(1, 0), 0);
+        due("see(0)", x.see(0), 6);
+        due("left(1, 0)", x.left(1, 0), 1);
+        HarbourLights y = told("beats 3;rhythm dff;light 0;lit 0 0");
+        due("watch(0, 0)", y.watch(0, 0), 3);
+        due("see(0)", y.see(0), 1);
+        due("left(1, 0)", y.left(1, 0), 1);
     }
 
     private static void watchEnds() {
@@ -894,6 +946,13 @@ public final class PromiseTest {
         due("find(0, 2, 8)", x.find(0, 2, 8), 0);
         x.draw(0, 1);
         due("find(0, 2, 9)", x.find(0, 2, 9), 1);
+        due("find(0, 2, -3)", x.find(0, 2, -3), 1);
+        x.draw(0, 1);
+        due("find(0, 0, 0) of two", x.find(0, 0, 0), 50009);
+        x.draw(0, 0);
+        x.put(0, 0, 10);
+        due("find(0, 1, 0) of two", x.find(0, 1, 0), 50009);
+        due("find(0, 0, 0) of two", x.find(0, 0, 0), 50010);
     }
 
     private static void strike() {
