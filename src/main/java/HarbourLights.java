@@ -916,6 +916,7 @@ public final class HarbourLights {
 
     /** Which rhythms lights had best have: PLAN and MOST. */
     private static final class Planner {
+        private static final int ALL_LIGHTS = (1 << MOST_LIGHTS) - 1;
         int fewest;
         final int[] best = new int[MOST_LIGHTS];
         private int lights;
@@ -946,22 +947,34 @@ public final class HarbourLights {
         /**
          * Plans come in their order, and only one with fewer rhythms takes the place of the best so
          * far: so the first of those with the fewest stays.
+         *
+         * <p>Answers the lights (bits) that are to blame that no more came of it. One that is not
+         * among them need not be tried with its other rhythms: without this, a knot of lights for
+         * which there is no plan would be met again for all that lights far from it may have.
          */
-        private void chooseFrom(int light, int used) {
+        private int chooseFrom(int light, int used) {
             if (light >= lights) {
                 fewest = Integer.bitCount(used);
                 System.arraycopy(chosen, 0, best, 0, MOST_LIGHTS);
-                return;
+                return ALL_LIGHTS;
             }
             int refused = refusedFor(light);
+            int blamed = neighbours[light];
             for (int rhythm = 0; rhythm < rhythms; rhythm++) {
                 int usedThen = used | 1 << rhythm;
                 boolean stands = (refused >> rhythm & 1) == 0;
-                if (stands && Integer.bitCount(usedThen) < fewest) {
+                if (stands && Integer.bitCount(usedThen) >= fewest) {
+                    blamed = ALL_LIGHTS;
+                } else if (stands) {
                     chosen[light] = rhythm;
-                    chooseFrom(light + 1, usedThen);
+                    int blamedBehind = chooseFrom(light + 1, usedThen);
+                    if ((blamedBehind >> light & 1) == 0) {
+                        return blamedBehind;
+                    }
+                    blamed |= blamedBehind;
                 }
             }
+            return blamed;
         }
 
         private int refusedFor(int light) {

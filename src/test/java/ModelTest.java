@@ -7,6 +7,7 @@ import java.util.Random;
 public final class ModelTest {
     private static final int RUNS = 600;
     private static final int CALLS = 512;
+    private static final int COASTS = 2000;
     private static final String[] CLAUSES = {"beats", "window", "sight", "rhythm", "light", "lit"};
     private static final String ODD = " ;;09adfz/:`{AZ\t-";
     private static final Check CHECK = new Check();
@@ -25,7 +26,28 @@ public final class ModelTest {
             CHECK.part("seed " + run);
             new ModelTest(run).run();
         }
+        for (int coast = 0; coast < COASTS && CHECK.wrong() < 20; coast++) {
+            CHECK.part("coast " + coast);
+            new ModelTest(coast).planned();
+        }
         CHECK.end();
+    }
+
+    /** Coasts that are small enough for the model to try all plans, with knots and lone lights. */
+    private void planned() {
+        int b = 3 + random.nextInt(3);
+        int rhythms = 2 + random.nextInt(5);
+        int lights = rhythms > 4 ? 4 : 3 + random.nextInt(4);
+        StringBuilder text = new StringBuilder("beats " + b + ";window " + (2 + random.nextInt(b - 1)));
+        text.append(";sight ").append(1 + random.nextInt(random.nextBoolean() ? 50 : 20));
+        for (int i = 0; i < rhythms; i++) text.append(";rhythm ").append(beats(b));
+        for (int i = 0; i < lights; i++) text.append(";light ").append(place());
+        tell(text.toString());
+        for (int strict = 0; strict < 2; strict++) {
+            int l = random.nextInt(lights);
+            due("plan(" + strict + ", -1) of " + text, x.plan(strict, -1), model.plan(strict, -1));
+            due("plan(" + strict + ", " + l + ") of " + text, x.plan(strict, l), model.plan(strict, l));
+        }
     }
 
     private void run() {

@@ -624,6 +624,8 @@ public final class PromiseTest {
         due("like(0, 2, 0)", z.like(0, 2, 0), 1);
         due("like(2, 3, 0)", z.like(2, 3, 0), 0);
         planIs(z, 0, 1, 2, 1, 2, 3);
+        planIs(told("beats 3;window 3;sight 7;rhythm ffd;rhythm dff;rhythm fff;rhythm ddf;light 2;light 31;light 8"), 1, 2, 2, 3);
+        planIs(told("beats 3;window 2;sight 42;rhythm dfd;rhythm fff;light 13;light 71;light 60;light 22"), 0, 0, 1, 0, 1);
     }
 
     private static void most() {
