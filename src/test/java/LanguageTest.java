@@ -32,6 +32,7 @@ public final class LanguageTest {
         String source = Files.readString(sourcePath());
         words(withoutCommentsAndTexts(source));
         lengths(source);
+        rowsMadeOnce(withoutCommentsAndTexts(source));
         CHECK.end();
     }
 
@@ -125,6 +126,18 @@ public final class LanguageTest {
             String name = call.group(1) + "." + call.group(2);
             CHECK.holds(name + " is of the library that is listed", allowed.contains(name));
         }
+    }
+
+    /** All calls of a run live in one room: only fields and the constructor make objects and rows. */
+    private static void rowsMadeOnce(String code) {
+        CHECK.part("rule 12, no call makes an object");
+        int begin = code.indexOf("public HarbourLights() {");
+        int end = code.indexOf("\n    }", Math.max(begin, 0));
+        CHECK.holds("the constructor is found", begin > 0 && end > begin);
+        String rest = code.substring(0, Math.max(begin, 0)) + code.substring(Math.max(end, 0));
+        rest.lines().filter(line -> line.matches(".*\\bnew\\b.*")).forEach(line ->
+            CHECK.holds("a field that is made with its object:" + line, line.matches(" +(private )?final [\\w\\[\\]]+ \\w+ = new .*;")));
+        CHECK.holds("no copies are made", !code.matches("(?s).*\\b(clone|copyOf|copyOfRange|StringBuilder|substring|toCharArray)\\b.*"));
     }
 
     /** A method ends where its closing brace stands as far in as its first line. */

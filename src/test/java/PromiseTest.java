@@ -1,10 +1,5 @@
 /** For each promise: ordinary inputs, the edges that the document names, and wrong inputs. */
-public final class PromiseTest {
-    private static final int NONE = -1, UNKNOWN = -2, OUTSIDE = -3, NOT = -4, FULL = -5;
-    private static final int NULL = -11, EMPTY = -12, ROOM = -13;
-    private static final int LEAST_INT = Integer.MIN_VALUE, GREATEST_INT = Integer.MAX_VALUE;
-    private static final Check CHECK = new Check();
-
+public final class PromiseTest extends OfficeCheck {
     public static void main(String[] args) {
         newObject();
         write();
@@ -42,49 +37,6 @@ public final class PromiseTest {
         drop();
         count();
         CHECK.end();
-    }
-
-    private static void due(String call, int got, int want) {
-        CHECK.due(call, got, want);
-    }
-
-    private static void promise(int number) {
-        CHECK.part("promise " + number);
-    }
-
-    private static void spell(HarbourLights x, String text) {
-        for (int i = 0; i < text.length(); i++) {
-            x.write(text.charAt(i));
-        }
-    }
-
-    private static HarbourLights told(String text) {
-        HarbourLights x = new HarbourLights();
-        spell(x, text);
-        due("office() of " + text, x.office(), text.split(";").length);
-        return x;
-    }
-
-    private static void faultDue(HarbourLights x, String text, int want) {
-        x.erase();
-        spell(x, text);
-        due("fault() of '" + text + "'", x.fault(), want);
-        if (want != NONE) {
-            due("office() of '" + text + "'", x.office(), NOT);
-            due("count(10) behind '" + text + "'", x.count(10), text.length());
-        }
-    }
-
-    private static void faultDue(String text, int want) {
-        faultDue(new HarbourLights(), text, want);
-    }
-
-    private static String repeated(String clause, int n) {
-        StringBuilder all = new StringBuilder(clause);
-        for (int i = 1; i < n; i++) {
-            all.append(';').append(clause);
-        }
-        return all.toString();
     }
 
     private static void newObject() {
